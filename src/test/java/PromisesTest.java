@@ -1,0 +1,1043 @@
+/** The promises of the document, one after the other; what is due is told by its words alone. */
+public final class PromisesTest {
+    private static final int UNKNOWN = CupFountain.UNKNOWN;
+    private static final int BAD_VALUE = CupFountain.BAD_VALUE;
+    private static final int FULL = CupFountain.FULL;
+    private static final int NOT_POSSIBLE = CupFountain.NOT_POSSIBLE;
+    private static final int NONE = CupFountain.NONE;
+    private static final int[] FAR_OFF = {Integer.MIN_VALUE, -2, 1000, Integer.MAX_VALUE};
+
+    private static final Checks checks = new Checks();
+
+    public static void main(String[] args) {
+        constants();
+        promise1NewObject();
+        promise2SetCup();
+        promise3TurnLock();
+        promise4SetHour();
+        promise5Guard();
+        promise5GuardInTicks();
+        promise6Fill();
+        promise7Set();
+        promise8Pass();
+        promise8Tick();
+        promise8Basin();
+        promise8MostWater();
+        promise8LastTick();
+        promise9Type();
+        promise10ClearText();
+        promise11Faults();
+        promise11Perform();
+        promise11AllOrNothing();
+        promise12Stopped();
+        promise13Undo();
+        promise13UndoBringsAllBack();
+        promise14Keep();
+        promise15Restore();
+        promise16Cup();
+        promise16Jet();
+        promise16Times();
+        promise17Reason();
+        promise18TipsIn();
+        promise19TipsAt();
+        promise20Starving();
+        promise21BestSize();
+        promise22IfTicks();
+        promise23Highest();
+        promise24Count();
+        whatIsToldChangesNothing();
+        checks.close("PromisesTest");
+    }
+
+    private static void due(String call, long got, long want) {
+        checks.due(call, got, want);
+    }
+
+    /** Puts another text in place of the one that is. */
+    private static void write(CupFountain x, String text) {
+        x.clearText();
+        for (int i = 0; i < text.length(); i++) {
+            x.type(text.charAt(i));
+        }
+    }
+
+    private static int perform(CupFountain x, String text) {
+        write(x, text);
+        return x.perform();
+    }
+
+    /** A fountain whose spring is dry. */
+    private static CupFountain dry() {
+        CupFountain x = new CupFountain();
+        x.set(0, 0);
+        return x;
+    }
+
+    private static void fillUp(CupFountain x, int cup, int times) {
+        for (int i = 0; i < times; i++) {
+            x.fill(cup, 99);
+        }
+    }
+
+    private static void constants() {
+        due("UNKNOWN", UNKNOWN, -1);
+        due("BAD_VALUE", BAD_VALUE, -2);
+        due("FULL", FULL, -3);
+        due("NOT_POSSIBLE", NOT_POSSIBLE, -4);
+        due("NONE", NONE, -5);
+    }
+
+    private static void promise1NewObject() {
+        CupFountain x = new CupFountain();
+        int[] counts = {0, 0, 0, 0, 0, 0, 0, 0, 0, 0, 3, 0, 24, 0, 0};
+        for (int what = 0; what < counts.length; what++) {
+            due("1: count(" + what + ")", x.count(what), counts[what]);
+        }
+        for (int cup = 0; cup < 8; cup++) {
+            int[] told = {10, 0, cup + 1, 0, NONE, 1, 0, 0, 0, 0, 0, 0};
+            for (int what = 0; what < told.length; what++) {
+                due("1: cup(" + cup + ", " + what + ")", x.cup(cup, what), told[what]);
+            }
+        }
+        due("1: undo()", x.undo(), NONE);
+        due("1: restore()", x.restore(), NONE);
+        due("1: stopped(0)", x.stopped(0), NONE);
+        due("1: highest()", x.highest(), NONE);
+        due("1: perform()", x.perform(), -100);
+        CupFountain other = new CupFountain();
+        x.pass(5);
+        x.setCup(3, 0, 20);
+        x.type('.');
+        x.keep();
+        due("1: another's tick", other.count(0), 0);
+        due("1: another's size", other.cup(3, 0), 10);
+        due("1: another's text", other.count(14), 0);
+        due("1: another's snapshot", other.restore(), NONE);
+    }
+
+    private static void promise2SetCup() {
+        CupFountain x = new CupFountain();
+        due("2: size", x.setCup(2, 0, 99), 10);
+        due("2: size again", x.setCup(2, 0, 99), NONE);
+        due("2: size back", x.setCup(2, 0, 1), 99);
+        due("2: size then", x.cup(2, 0), 1);
+        due("2: size of the next", x.cup(3, 0), 10);
+        due("2: leak", x.setCup(2, 1, 9), 0);
+        due("2: leak again", x.setCup(2, 1, 9), NONE);
+        due("2: leak back", x.setCup(2, 1, 0), 9);
+        due("2: spills into the basin", x.setCup(2, 2, 8), 3);
+        due("2: spills into it already", x.setCup(2, 2, 8), NONE);
+        due("2: spills into the next", x.setCup(2, 2, 3), 8);
+        due("2: spills into a further", x.setCup(2, 2, 7), 3);
+        due("2: spills then", x.cup(2, 2), 7);
+        due("2: acts are recorded", x.count(13), 4);
+
+        CupFountain y = new CupFountain();
+        for (int cup : new int[] {-1, 8, Integer.MIN_VALUE, Integer.MAX_VALUE}) {
+            due("2: cup " + cup, y.setCup(cup, 0, 5), UNKNOWN);
+            due("2: cup and which " + cup, y.setCup(cup, 3, 1000), UNKNOWN);
+        }
+        for (int which : new int[] {-1, 3, Integer.MIN_VALUE, Integer.MAX_VALUE}) {
+            due("2: which " + which, y.setCup(0, which, 5), BAD_VALUE);
+        }
+        for (int value : FAR_OFF) {
+            for (int which = 0; which < 3; which++) {
+                due("2: value " + which + " " + value, y.setCup(0, which, value), BAD_VALUE);
+            }
+        }
+        due("2: size 0", y.setCup(0, 0, 0), BAD_VALUE);
+        due("2: size 100", y.setCup(0, 0, 100), BAD_VALUE);
+        due("2: leak -1", y.setCup(0, 1, -1), BAD_VALUE);
+        due("2: leak 10", y.setCup(0, 1, 10), BAD_VALUE);
+        due("2: spills into itself", y.setCup(4, 2, 4), BAD_VALUE);
+        due("2: spills into a lower", y.setCup(4, 2, 3), BAD_VALUE);
+        due("2: spills into 9", y.setCup(4, 2, 9), BAD_VALUE);
+        due("2: spills as it is", y.setCup(4, 2, 5), NONE);
+        due("2: cup 7 into the basin", y.setCup(7, 2, 8), NONE);
+        due("2: errors and NONE record nothing", y.count(13), 0);
+        due("2: size 1 is a size", y.setCup(7, 0, 1), 10);
+    }
+
+    private static void promise3TurnLock() {
+        CupFountain x = new CupFountain();
+        due("3: shut", x.turnLock(0), 0);
+        due("3: it is shut", x.cup(0, 5), 0);
+        due("3: another is open", x.cup(1, 5), 1);
+        x.pass(4);
+        due("3: holds its water", x.cup(0, 3), 12);
+        due("3: open", x.turnLock(0), 1);
+        due("3: it is open", x.cup(0, 5), 1);
+        due("3: tips then", x.pass(1), 8);
+        due("3: recorded", x.count(13), 4);
+        due("3: -1", x.turnLock(-1), UNKNOWN);
+        due("3: 8", x.turnLock(8), UNKNOWN);
+        x.setHour(7, 5);
+        x.guard(7);
+        due("3: with a guard", x.turnLock(7), NOT_POSSIBLE);
+        due("3: with a guard it stays shut", x.cup(7, 5), 0);
+        x.guard(7);
+        due("3: without it again", x.turnLock(7), 0);
+        due("3: shut by hand while it has an hour", x.cup(7, 6), 0);
+    }
+
+    private static void promise4SetHour() {
+        CupFountain x = new CupFountain();
+        due("4: none already", x.setHour(1, -1), NONE);
+        due("4: first", x.setHour(1, 0), 240);
+        due("4: again", x.setHour(1, 0), NONE);
+        due("4: another", x.setHour(1, 239), 0);
+        due("4: told", x.cup(1, 4), 239);
+        due("4: of another cup", x.cup(2, 4), NONE);
+        due("4: none", x.setHour(1, -1), 239);
+        due("4: told as none", x.cup(1, 4), NONE);
+        due("4: recorded", x.count(13), 3);
+        for (int cup : new int[] {-1, 8, Integer.MIN_VALUE, Integer.MAX_VALUE}) {
+            due("4: cup " + cup, x.setHour(cup, 240), UNKNOWN);
+        }
+        for (int hour : new int[] {240, -2, Integer.MIN_VALUE, Integer.MAX_VALUE}) {
+            due("4: hour " + hour, x.setHour(1, hour), BAD_VALUE);
+        }
+
+        CupFountain y = new CupFountain();
+        y.turnLock(3);
+        due("4: none already, and shut", y.setHour(3, -1), NONE);
+        due("4: so it stays shut", y.cup(3, 5), 0);
+        y.setHour(3, 7);
+        due("4: an hour opens nothing", y.cup(3, 5), 0);
+        y.setHour(3, 8);
+        due("4: another hour opens nothing", y.cup(3, 5), 0);
+        y.setHour(3, -1);
+        due("4: none opens what was shut by hand", y.cup(3, 5), 1);
+
+        CupFountain z = new CupFountain();
+        z.setHour(0, 5);
+        z.guard(0);
+        z.setHour(0, 6);
+        due("4: another hour keeps the guard", z.cup(0, 6), 1);
+        due("4: and the lock shut", z.cup(0, 5), 0);
+        z.setHour(0, -1);
+        due("4: none takes the guard off", z.cup(0, 6), 0);
+        due("4: and opens the lock", z.cup(0, 5), 1);
+        z.setHour(0, 6);
+        due("4: the guard does not come back", z.cup(0, 6), 0);
+    }
+
+    private static void promise5Guard() {
+        CupFountain x = new CupFountain();
+        due("5: no hour", x.guard(0), NOT_POSSIBLE);
+        due("5: -1", x.guard(-1), UNKNOWN);
+        due("5: 8", x.guard(8), UNKNOWN);
+        due("5: nothing is recorded", x.count(13), 0);
+        x.setHour(0, 5);
+        due("5: set", x.guard(0), 1);
+        due("5: its lock is shut", x.cup(0, 5), 0);
+        due("5: it is told", x.cup(0, 6), 1);
+        due("5: off", x.guard(0), 0);
+        due("5: its lock is open", x.cup(0, 5), 1);
+        due("5: it is told off", x.cup(0, 6), 0);
+        due("5: recorded", x.count(13), 3);
+        x.turnLock(0);
+        x.guard(0);
+        due("5: set on a shut one", x.cup(0, 5), 0);
+        x.guard(0);
+        due("5: off opens what was shut by hand", x.cup(0, 5), 1);
+    }
+
+    private static void promise5GuardInTicks() {
+        CupFountain x = new CupFountain();
+        x.setHour(0, 5);
+        x.guard(0);
+        due("5: before its hour", x.pass(5), 0);
+        due("5: its water", x.cup(0, 3), 15);
+        due("5: at its hour", x.pass(1), 8);
+        due("5: shut again", x.cup(0, 5), 0);
+        due("5: the guard stays", x.cup(0, 6), 1);
+        due("5: on time", x.cup(0, 9), 1);
+        due("5: till its hour comes again", x.pass(23), 0);
+        due("5: once a day", x.pass(1), 8);
+
+        CupFountain y = new CupFountain();
+        y.setHour(0, 2);
+        y.guard(0);
+        due("5: too little at its hour", y.pass(3), 0);
+        due("5: shut at the end of the tick", y.cup(0, 5), 0);
+        due("5: full, but held", y.pass(23), 0);
+        due("5: next day", y.pass(1), 8);
+        due("5: with a day's water", y.cup(0, 7), 30);
+
+        CupFountain z = new CupFountain();
+        z.set(2, 5);
+        z.setHour(0, 5);
+        z.guard(0);
+        due("5: an hour that never comes", z.pass(99), 0);
+    }
+
+    private static void promise6Fill() {
+        CupFountain x = dry();
+        due("6: 1", x.fill(7, 1), 1);
+        due("6: 99", x.fill(7, 99), 100);
+        due("6: told", x.cup(7, 3), 100);
+        due("6: by hand", x.count(6), 100);
+        due("6: recorded", x.count(13), 3);
+        for (int cup : new int[] {-1, 8, Integer.MIN_VALUE, Integer.MAX_VALUE}) {
+            due("6: cup " + cup, x.fill(cup, 0), UNKNOWN);
+        }
+        for (int water : new int[] {0, 100, -1, Integer.MIN_VALUE, Integer.MAX_VALUE}) {
+            due("6: water " + water, x.fill(7, water), BAD_VALUE);
+        }
+        due("6: an error fills nothing", x.count(6), 100);
+
+        CupFountain y = dry();
+        fillUp(y, 3, 100);
+        due("6: nearly the most", y.cup(3, 3), 9900);
+        due("6: the most", y.fill(3, 99), 9999);
+        due("6: one more", y.fill(3, 1), FULL);
+        due("6: out of range comes first", y.fill(3, 100), BAD_VALUE);
+        due("6: it has the most", y.cup(3, 3), 9999);
+        due("6: all of it by hand", y.count(6), 9999);
+        due("6: it tips with all", y.pass(1), 5);
+        due("6: into the basin", y.count(3), 9999);
+    }
+
+    private static void promise7Set() {
+        CupFountain x = new CupFountain();
+        due("7: spring", x.set(0, 99), 3);
+        due("7: spring again", x.set(0, 99), NONE);
+        due("7: spring dry", x.set(0, 0), 99);
+        due("7: back", x.set(1, 99), 0);
+        due("7: back again", x.set(1, 99), NONE);
+        due("7: back none", x.set(1, 0), 99);
+        due("7: day", x.set(2, 240), 24);
+        due("7: day again", x.set(2, 240), NONE);
+        due("7: day of 1", x.set(2, 1), 240);
+        due("7: told spring", x.count(10), 0);
+        due("7: told back", x.count(11), 0);
+        due("7: told day", x.count(12), 1);
+        due("7: recorded", x.count(13), 4);
+        for (int which : new int[] {-1, 3, Integer.MIN_VALUE, Integer.MAX_VALUE}) {
+            due("7: which " + which, x.set(which, -1), UNKNOWN);
+        }
+        for (int which = 0; which < 3; which++) {
+            due("7: -1 for " + which, x.set(which, -1), BAD_VALUE);
+            due("7: 241 for " + which, x.set(which, 241), BAD_VALUE);
+            due("7: greatest for " + which, x.set(which, Integer.MAX_VALUE), BAD_VALUE);
+        }
+        due("7: 100 for spring", x.set(0, 100), BAD_VALUE);
+        due("7: 100 for back", x.set(1, 100), BAD_VALUE);
+        due("7: 0 for the day", x.set(2, 0), BAD_VALUE);
+
+        CupFountain y = new CupFountain();
+        y.pass(50);
+        due("7: the hour", y.count(1), 2);
+        y.set(2, 7);
+        due("7: the hour of another day", y.count(1), 1);
+    }
+
+    private static void promise8Pass() {
+        CupFountain x = new CupFountain();
+        due("8: none tips", x.pass(3), 0);
+        due("8: all tip", x.pass(1), 8);
+        due("8: 99", x.pass(99), 24 * 8);
+        due("8: the tick", x.count(0), 103);
+        due("8: recorded", x.count(13), 3);
+        for (int ticks : new int[] {0, 100, -1, Integer.MIN_VALUE, Integer.MAX_VALUE}) {
+            due("8: ticks " + ticks, x.pass(ticks), BAD_VALUE);
+        }
+        due("8: an error passes nothing", x.count(0), 103);
+        due("8: nor records", x.count(13), 3);
+    }
+
+    private static void promise8Tick() {
+        CupFountain x = dry();
+        x.fill(0, 9);
+        due("8: one less than its size", x.pass(1), 0);
+        x.fill(0, 1);
+        x.setCup(0, 2, 7);
+        x.setCup(7, 0, 11);
+        due("8: just its size", x.pass(1), 1);
+        due("8: spills past the others", x.cup(7, 3), 10);
+        due("8: nothing is left", x.cup(0, 3), 0);
+        x.fill(5, 10);
+        due("8: a chain in one tick", x.pass(1), 3);
+        due("8: all of it in the basin", x.count(3), 20);
+
+        CupFountain y = dry();
+        y.fill(2, 20);
+        y.setCup(2, 1, 9);
+        y.setCup(3, 1, 7);
+        y.setCup(3, 0, 99);
+        y.setCup(5, 1, 5);
+        y.fill(5, 3);
+        due("8: it tips before it drips", y.pass(1), 1);
+        due("8: what came in drips in the same tick", y.cup(3, 3), 13);
+        due("8: 0 at least", y.cup(5, 3), 0);
+        due("8: lost what there was", y.count(4), 10);
+        y.pass(2);
+        due("8: to the last", y.cup(3, 3), 0);
+        due("8: lost all", y.count(4), 23);
+
+        CupFountain z = new CupFountain();
+        z.turnLock(4);
+        z.pass(8);
+        due("8: full and shut", z.cup(4, 3), 24);
+        due("8: those behind it are dry", z.cup(5, 8), 0);
+        due("8: those before it go on", z.cup(3, 8), 2);
+        due("8: from the spring", z.count(5), 24);
+    }
+
+    private static void promise8Basin() {
+        CupFountain x = dry();
+        x.fill(7, 50);
+        x.set(1, 20);
+        x.pass(1);
+        due("8: the basin", x.count(3), 50);
+        x.setCup(0, 0, 99);
+        x.pass(1);
+        due("8: as much as is set comes back", x.count(3), 30);
+        due("8: into the cup 0", x.cup(0, 3), 20);
+        x.pass(1);
+        due("8: again", x.count(3), 10);
+        x.pass(1);
+        due("8: all that is in it", x.count(3), 0);
+        due("8: is less", x.cup(0, 3), 50);
+        due("8: it is not from the spring", x.count(5), 0);
+        x.pass(1);
+        due("8: none is left to come", x.cup(0, 3), 50);
+
+        CupFountain y = new CupFountain();
+        y.set(0, 10);
+        y.set(1, 99);
+        y.pass(1);
+        due("8: what tips into the basin", y.count(3), 10);
+        due("8: comes back in the next tick", y.cup(0, 3), 0);
+        y.setCup(0, 0, 30);
+        y.pass(1);
+        due("8: besides the spring", y.cup(0, 3), 20);
+    }
+
+    private static void promise8MostWater() {
+        CupFountain x = new CupFountain();
+        x.turnLock(0);
+        fillUp(x, 0, 101);
+        x.pass(1);
+        due("8: the most that a full one keeps", x.cup(0, 3), 9999);
+        due("8: the rest is in the basin", x.count(3), 3);
+        x.setCup(0, 1, 9);
+        x.pass(1);
+        due("8: the rest is gone before it drips", x.count(3), 6);
+        due("8: it drips from the most", x.cup(0, 3), 9990);
+
+        CupFountain y = dry();
+        y.turnLock(2);
+        fillUp(y, 2, 101);
+        fillUp(y, 1, 101);
+        due("8: one tips into a full one", y.pass(1), 1);
+        due("8: that keeps the most", y.cup(2, 3), 9999);
+        due("8: the basin has the rest", y.count(3), 9999);
+
+        CupFountain z = dry();
+        fillUp(z, 2, 101);
+        fillUp(z, 1, 101);
+        due("8: one that tips spills all", z.pass(1), 7);
+        due("8: of it nothing is kept", z.count(3), 2 * 9999);
+    }
+
+    private static void promise8LastTick() {
+        CupFountain x = new CupFountain();
+        write(x, ".99;.99;.99;.99;.99;.99;.99;.99;.99;.99;.99;.99;.99;.99;.99");
+        for (int i = 0; i < 67; i++) {
+            due("8: days pass", x.perform(), 15);
+        }
+        due("8: far on", x.count(0), 99495);
+        due("8: a plan too far", x.perform(), NOT_POSSIBLE);
+        due("8: stopped there", x.stopped(0), 5);
+        due("8: as it is full", x.stopped(1), FULL);
+        due("8: nothing passed", x.count(0), 99495);
+        for (int i = 0; i < 5; i++) {
+            x.pass(99);
+        }
+        due("8: further", x.count(0), 99990);
+        due("8: too far", x.pass(10), FULL);
+        due("8: out of range comes first", x.pass(100), BAD_VALUE);
+        due("8: to the last", x.pass(9) >= 0 ? 1 : 0, 1);
+        due("8: the last", x.count(0), 99999);
+        due("8: beyond", x.pass(1), FULL);
+        due("8: what is told looks beyond", x.tipsIn(0) > 0 ? 1 : 0, 1);
+    }
+
+    private static void promise9Type() {
+        CupFountain x = new CupFountain();
+        due("9: first", x.type('h'), 1);
+        due("9: second", x.type((char) 0), 2);
+        due("9: third", x.type((char) 0xFFFF), 3);
+        for (int i = 4; i <= 60; i++) {
+            due("9: " + i, x.type(';'), i);
+        }
+        due("9: one more", x.type('x'), FULL);
+        due("9: it stays", x.count(14), 60);
+        due("9: no act", x.count(13), 0);
+        x.clearText();
+        due("9: again", x.type('x'), 1);
+        due("9: the text is read", x.perform(), -100);
+        x.clearText();
+        due("9: a sign far off", perform(x, "." + (char) 0x0131), -101);
+        due("9: another digit", perform(x, "." + (char) 0x0661), -101);
+    }
+
+    private static void promise10ClearText() {
+        CupFountain x = new CupFountain();
+        due("10: empty", x.clearText(), 0);
+        write(x, "g0;");
+        due("10: three", x.clearText(), 3);
+        due("10: then empty", x.count(14), 0);
+        due("10: again", x.clearText(), 0);
+        due("10: no act", x.count(13), 0);
+        due("10: the text is gone", x.perform(), -100);
+    }
+
+    private static void promise11Faults() {
+        String[] texts = {"", "x", "h", "h8", "h-", "h0", "h0=5", "h0@", "h0@-", "h0@05", "h0@240", "h0@300",
+            "h0@2390", "h0@1000", "h0@5 ", "s", "s9", "s0@5", "s0=", "s0=0", "s0=01", "s0=100", "s0=99;", "f", "f8",
+            "f0", "f0=1", "f0+", "f0+0", "f0+100", "f0+99g", "g", "g8", "g0.", "g0;", "g0;;", ".", ".0", ".100",
+            ".99.", ".1;.1;.1;", ".1;.1;x", ";", "H0@5", "h 0@5", "s0=9;s0=", "h0@0;", "h0@00", ".a"};
+        int[] faults = {0, 0, 1, 1, 1, 2, 2, 3, 3, 4, 5, 5,
+            6, 6, 4, 1, 1, 2, 3, 3, 3, 5, 6, 1, 1,
+            2, 2, 3, 3, 5, 5, 1, 1, 2, 3, 3, 1, 1, 3,
+            3, 9, 6, 0, 0, 1, 8, 5, 4, 1};
+        due("11: as many faults as texts", faults.length, texts.length);
+        for (int i = 0; i < texts.length && i < faults.length; i++) {
+            CupFountain x = new CupFountain();
+            due("11: \"" + texts[i] + "\"", perform(x, texts[i]), -100 - faults[i]);
+            due("11: is no stop: \"" + texts[i] + "\"", x.stopped(0), NONE);
+            due("11: changes nothing: \"" + texts[i] + "\"", x.count(0) + x.count(13) + x.count(6), 0);
+        }
+        CupFountain full = new CupFountain();
+        due("11: a long one that ends too early",
+            perform(full, ".1;.1;.1;.1;.1;.1;.1;.1;.1;.1;.1;.1;.1;.1;.1;.1;.1;.1;.1;.1;"), -160);
+        due("11: a fault at its end",
+            perform(full, ".1;.1;.1;.1;.1;.1;.1;.1;.1;.1;.1;.1;.1;.1;.1;.1;.1;.1;.1;.1x"), -159);
+        due("11: a long one", perform(full, ".1;.1;.1;.1;.1;.1;.1;.1;.1;.1;.1;.1;.1;.1;.1;.1;.1;.1;.1;.10"), 20);
+        due("11: its ticks", full.count(0), 29);
+    }
+
+    private static void promise11Perform() {
+        CupFountain x = new CupFountain();
+        due("11: an hour", perform(x, "h7@239"), 1);
+        due("11: it is set", x.cup(7, 4), 239);
+        due("11: the hour 0", perform(x, "h7@0"), 1);
+        due("11: it is set to 0", x.cup(7, 4), 0);
+        due("11: a guard", perform(x, "g7"), 1);
+        due("11: it is set for it", x.cup(7, 6), 1);
+        due("11: a guard again", perform(x, "g7"), 1);
+        due("11: it is taken off", x.cup(7, 6), 0);
+        due("11: a size", perform(x, "s6=99;s5=1"), 2);
+        due("11: it is 99", x.cup(6, 0), 99);
+        due("11: it is 1", x.cup(5, 0), 1);
+        due("11: water", perform(x, "f4+99;f4+1"), 2);
+        due("11: it is filled", x.cup(4, 3), 100);
+        due("11: by hand", x.count(6), 100);
+        due("11: ticks", perform(x, ".99;.1"), 2);
+        due("11: they pass", x.count(0), 100);
+
+        CupFountain y = new CupFountain();
+        due("11: things in their order", perform(y, "f0+10;.1;s0=20;f0+10;.1"), 5);
+        due("11: as if called", y.cup(0, 8), 1);
+        due("11: with the size then", y.cup(0, 3), 13);
+        due("11: one act", y.count(13), 1);
+        due("11: the text stays", y.count(14), 23);
+        due("11: once more", y.perform(), 5);
+        due("11: two acts", y.count(13), 2);
+        y.undo();
+        due("11: undone at once", y.count(0), 2);
+        due("11: the size is back too", y.undo(), 0);
+        due("11: at the beginning", y.cup(0, 0), 10);
+        due("11: the text is no part of a state", y.count(14), 23);
+
+        CupFountain z = new CupFountain();
+        due("11: what is so already does not stop it", perform(z, "s0=10;h0@5;h0@5;s0=12"), 4);
+        due("11: nor what comes behind", z.cup(0, 0), 12);
+        due("11: only what is so already", perform(z, "s0=12"), 1);
+        due("11: is an act too", z.count(13), 2);
+    }
+
+    private static void promise11AllOrNothing() {
+        CupFountain x = new CupFountain();
+        x.pass(2);
+        due("11: no hour for a guard", perform(x, "s0=5;f0+7;.9;g1;s1=3"), NOT_POSSIBLE);
+        due("11: the size is as it was", x.cup(0, 0), 10);
+        due("11: the water is as it was", x.cup(0, 3), 6);
+        due("11: the tick is as it was", x.count(0), 2);
+        due("11: nothing is filled", x.count(6), 0);
+        due("11: nothing came", x.count(5), 6);
+        due("11: nothing is recorded", x.count(13), 1);
+        due("11: its number", x.stopped(0), 3);
+        due("11: its error", x.stopped(1), NOT_POSSIBLE);
+        due("11: an hour in the same plan", perform(x, "h1@5;g1"), 2);
+        due("11: undone as one", x.undo(), 1);
+        due("11: without an hour", x.cup(1, 4), NONE);
+    }
+
+    private static void promise12Stopped() {
+        CupFountain x = dry();
+        due("12: nothing yet", x.stopped(0), NONE);
+        due("12: nothing yet", x.stopped(1), NONE);
+        due("12: out of range", x.stopped(2), BAD_VALUE);
+        due("12: out of range", x.stopped(-1), BAD_VALUE);
+        perform(x, "g0");
+        due("12: the first", x.stopped(0), 0);
+        due("12: its error", x.stopped(1), NOT_POSSIBLE);
+        fillUp(x, 0, 101);
+        perform(x, "s1=5;f0+1;g0");
+        due("12: the latest", x.stopped(0), 1);
+        due("12: its error", x.stopped(1), FULL);
+        due("12: a fault is no stop", perform(x, "g0;"), -103);
+        due("12: so it stays", x.stopped(0), 1);
+        due("12: one that is done", perform(x, "s0=5"), 1);
+        due("12: is none either", x.stopped(1), FULL);
+        x.undo();
+        due("12: it is no part of a state", x.stopped(0), 1);
+        due("12: out of range still", x.stopped(2), BAD_VALUE);
+        due("12: far out of range", x.stopped(Integer.MIN_VALUE), BAD_VALUE);
+    }
+
+    private static void promise13Undo() {
+        CupFountain x = new CupFountain();
+        due("13: empty", x.undo(), NONE);
+        for (int size = 11; size <= 16; size++) {
+            x.setCup(0, 0, size);
+        }
+        due("13: four are kept", x.count(13), 4);
+        for (int left = 3; left >= 0; left--) {
+            due("13: left", x.undo(), left);
+            due("13: the size", x.cup(0, 0), 12 + left);
+            due("13: told as left", x.count(13), left);
+        }
+        due("13: the oldest are dropped", x.undo(), NONE);
+        due("13: so it stays", x.cup(0, 0), 12);
+        x.setCup(0, 0, 50);
+        x.setCup(0, 0, 60);
+        due("13: after undoing", x.undo(), 1);
+        x.setCup(0, 0, 70);
+        due("13: others are recorded", x.undo(), 1);
+        due("13: in its place", x.cup(0, 0), 50);
+        due("13: the first", x.undo(), 0);
+        due("13: as it was", x.cup(0, 0), 12);
+    }
+
+    private static void promise13UndoBringsAllBack() {
+        CupFountain x = new CupFountain();
+        perform(x, "h0@3;g0;h2@20;f3+5");
+        x.setCup(0, 1, 1);
+        x.setCup(7, 1, 2);
+        x.setCup(5, 2, 7);
+        x.turnLock(6);
+        x.set(1, 2);
+        x.set(2, 20);
+        x.pass(30);
+        int[] told = all(x);
+        x.pass(30);
+        x.undo();
+        same("13: ticks", x, told);
+        perform(x, "s0=1;h0@7;g0;f7+99;.40");
+        x.undo();
+        same("13: a plan", x, told);
+        x.turnLock(6);
+        x.undo();
+        same("13: a lock", x, told);
+        x.set(0, 9);
+        x.undo();
+        same("13: a setting", x, told);
+        x.setHour(0, -1);
+        x.undo();
+        same("13: an hour", x, told);
+        x.setCup(5, 2, 8);
+        x.undo();
+        same("13: where it spills", x, told);
+    }
+
+    /** All that is told of a state. */
+    private static int[] all(CupFountain x) {
+        int[] told = new int[8 * 12 + 13];
+        for (int i = 0; i < 8 * 12; i++) {
+            told[i] = x.cup(i / 12, i % 12);
+        }
+        for (int i = 0; i < 13; i++) {
+            told[8 * 12 + i] = x.count(i);
+        }
+        return told;
+    }
+
+    private static void same(String what, CupFountain x, int[] told) {
+        int[] now = all(x);
+        for (int i = 0; i < told.length; i++) {
+            due(what + " [" + i + "]", now[i], told[i]);
+        }
+    }
+
+    private static void promise14Keep() {
+        CupFountain x = new CupFountain();
+        due("14: the tick", x.keep(), 0);
+        x.pass(7);
+        due("14: the tick then", x.keep(), 7);
+        due("14: no act", x.count(13), 1);
+        x.pass(5);
+        due("14: in place of the one that was", x.restore(), 7);
+        x.undo();
+        x.undo();
+        x.undo();
+        due("14: it is no part of a state", x.count(0), 0);
+        due("14: so it stays", x.restore(), 7);
+    }
+
+    private static void promise15Restore() {
+        CupFountain x = new CupFountain();
+        due("15: none", x.restore(), NONE);
+        due("15: nothing is recorded", x.count(13), 0);
+        perform(x, "h1@3;g1;s2=7;f2+5;.13");
+        x.set(1, 4);
+        int[] told = all(x);
+        x.keep();
+        perform(x, "h1@9;s2=8;f3+50;.40");
+        write(x, "abc");
+        due("15: the tick", x.restore(), 13);
+        same("15: all of it", x, told);
+        due("15: the text is no part of it", x.count(14), 3);
+        due("15: an act", x.count(13), 4);
+        x.pass(9);
+        due("15: it stays", x.restore(), 13);
+        same("15: all of it again", x, told);
+        x.undo();
+        due("15: undone", x.count(0), 22);
+        x.restore();
+        due("15: again", x.restore(), 13);
+        x.undo();
+        same("15: even what is so already is recorded", x, told);
+    }
+
+    private static void promise16Cup() {
+        CupFountain x = new CupFountain();
+        for (int cup : new int[] {-1, 8, Integer.MIN_VALUE, Integer.MAX_VALUE}) {
+            due("16: cup " + cup, x.cup(cup, 12), UNKNOWN);
+        }
+        for (int what : new int[] {-1, 12, Integer.MIN_VALUE, Integer.MAX_VALUE}) {
+            due("16: what " + what, x.cup(0, what), BAD_VALUE);
+        }
+        x.setCup(4, 0, 21);
+        x.setCup(4, 1, 2);
+        x.setCup(4, 2, 6);
+        x.setHour(4, 11);
+        x.fill(4, 50);
+        x.guard(4);
+        int[] told = {21, 2, 6, 50, 11, 0, 1, 0, 0, 0, 0, 0};
+        for (int what = 0; what < told.length; what++) {
+            due("16: what " + what, x.cup(4, what), told[what]);
+        }
+        due("16: the hour 0 is an hour", x.setHour(5, 0), 240);
+        due("16: and told", x.cup(5, 4), 0);
+    }
+
+    private static void promise16Jet() {
+        CupFountain x = dry();
+        x.setCup(0, 0, 7);
+        x.setCup(0, 2, 8);
+        x.fill(0, 13);
+        x.pass(1);
+        due("16: rounded down", x.cup(0, 7), 18);
+        x.setCup(0, 0, 99);
+        due("16: it stands", x.cup(0, 7), 18);
+        x.pass(1);
+        due("16: till the next tick's end", x.cup(0, 7), 0);
+        x.setCup(0, 0, 10);
+        x.fill(0, 29);
+        x.pass(1);
+        due("16: 29", x.cup(0, 7), 29);
+        x.fill(0, 30);
+        x.pass(1);
+        due("16: the next tip raises it anew", x.cup(0, 7), 30);
+        x.fill(0, 98);
+        x.pass(1);
+        due("16: the most", x.cup(0, 7), 30);
+        x.fill(0, 10);
+        x.pass(1);
+        due("16: the next is lower", x.cup(0, 7), 10);
+        x.turnLock(0);
+        x.fill(0, 10);
+        x.pass(1);
+        due("16: one that is held has none", x.cup(0, 7), 0);
+    }
+
+    private static void promise16Times() {
+        CupFountain x = new CupFountain();
+        x.set(0, 10);
+        x.setHour(1, 10);
+        x.pass(24);
+        due("16: tips", x.cup(1, 8), 24);
+        due("16: on time", x.cup(1, 9), 1);
+        due("16: early", x.cup(1, 10), 10);
+        due("16: late", x.cup(1, 11), 13);
+        due("16: one without an hour", x.cup(0, 8), 24);
+        due("16: never on time", x.cup(0, 9) + x.cup(0, 10) + x.cup(0, 11), 0);
+        x.setHour(1, 0);
+        x.pass(24);
+        due("16: on time at 0", x.cup(1, 9), 2);
+        due("16: never before 0", x.cup(1, 10), 10);
+        due("16: late after 0", x.cup(1, 11), 36);
+        x.setHour(1, -1);
+        x.pass(24);
+        due("16: then none of these", x.cup(1, 9) + x.cup(1, 10) + x.cup(1, 11), 48);
+        due("16: tips of all", x.cup(1, 8), 72);
+    }
+
+    private static void promise17Reason() {
+        CupFountain x = new CupFountain();
+        due("17: -1", x.reason(-1), UNKNOWN);
+        due("17: 8", x.reason(8), UNKNOWN);
+        due("17: far off", x.reason(Integer.MIN_VALUE), UNKNOWN);
+        due("17: too little", x.reason(0), 3);
+        x.pass(3);
+        due("17: it tips", x.reason(0), 0);
+        due("17: as one before it tips", x.reason(7), 0);
+        x.turnLock(3);
+        due("17: shut", x.reason(3), 2);
+        due("17: behind one that is shut", x.reason(4), 3);
+        x.setHour(5, 4);
+        x.guard(5);
+        due("17: not its hour", x.reason(5), 1);
+        x.pass(1);
+        due("17: its hour, but too little", x.reason(5), 3);
+        x.fill(5, 10);
+        due("17: its hour", x.reason(5), 0);
+        x.pass(1);
+        due("17: its hour is over", x.reason(5), 1);
+        due("17: shut without water", dryAndShut().reason(6), 2);
+        x.set(2, 1);
+        due("17: its hour never comes", x.reason(5), 1);
+    }
+
+    private static CupFountain dryAndShut() {
+        CupFountain x = dry();
+        x.turnLock(6);
+        return x;
+    }
+
+    private static void promise18TipsIn() {
+        CupFountain x = new CupFountain();
+        due("18: -1", x.tipsIn(-1), UNKNOWN);
+        due("18: 8", x.tipsIn(8), UNKNOWN);
+        due("18: four", x.tipsIn(0), 4);
+        x.pass(3);
+        due("18: one", x.tipsIn(7), 1);
+        x.pass(1);
+        due("18: the next", x.tipsIn(7), 4);
+        x.turnLock(2);
+        due("18: never", x.tipsIn(2), NONE);
+        due("18: nor behind it", x.tipsIn(3), NONE);
+
+        CupFountain y = dry();
+        y.set(2, 240);
+        y.setHour(0, 19);
+        y.guard(0);
+        y.pass(99);
+        y.fill(0, 10);
+        due("18: held till the next day", y.tipsIn(0), 240 + 19 - 99 + 1);
+
+        CupFountain z = edgeOf500(60);
+        due("18: just within 500", z.tipsIn(7), 500);
+        due("18: just beyond", edgeOf500(61).tipsIn(7), NONE);
+    }
+
+    private static void promise19TipsAt() {
+        CupFountain x = new CupFountain();
+        due("19: -1", x.tipsAt(-1), UNKNOWN);
+        due("19: 8", x.tipsAt(8), UNKNOWN);
+        due("19: the fourth tick", x.tipsAt(0), 3);
+        x.set(2, 3);
+        due("19: of a short day", x.tipsAt(0), 0);
+        x.set(2, 24);
+        x.pass(23);
+        due("19: the next tick", x.tipsAt(0), 23);
+        x.pass(1);
+        due("19: the next day", x.tipsAt(0), 3);
+        x.turnLock(0);
+        due("19: never", x.tipsAt(0), NONE);
+        due("19: just within 500", edgeOf500(60).tipsAt(7), 499 % 24);
+        due("19: just beyond", edgeOf500(61).tipsAt(7), NONE);
+    }
+
+    private static void promise20Starving() {
+        CupFountain x = new CupFountain();
+        due("20: none", x.starving(), NONE);
+        x.turnLock(4);
+        due("20: the first that is held", x.starving(), 4);
+        x.setCup(2, 2, 8);
+        due("20: the lowest", x.starving(), 3);
+        x.set(0, 0);
+        due("20: all", x.starving(), 0);
+        x.fill(0, 10);
+        due("20: but those that tip once", x.starving(), 3);
+        due("20: tells, but changes nothing", x.count(0), 0);
+
+        CupFountain edge = edgeOf500(60);
+        due("20: just within 500", edge.starving(), NONE);
+        edge.setCup(7, 0, 61);
+        due("20: just beyond", edge.starving(), 7);
+    }
+
+    /**
+     * The spring gives 2 and the cup 0 leaks 1, so that it wins 1 in a tick and
+     * spills 11 in each 10th. The cup 7 gets these 11 and leaks 10 till the next
+     * ones come: in the k-th of these ticks it has 10 + k.
+     */
+    private static CupFountain edgeOf500(int size) {
+        CupFountain x = new CupFountain();
+        x.set(0, 2);
+        x.setCup(0, 0, 11);
+        x.setCup(0, 1, 1);
+        x.setCup(7, 1, 1);
+        x.setCup(7, 0, size);
+        return x;
+    }
+
+    private static void promise21BestSize() {
+        CupFountain x = new CupFountain();
+        due("21: -1", x.bestSize(-1), UNKNOWN);
+        due("21: 8", x.bestSize(8), UNKNOWN);
+        due("21: no hour", x.bestSize(0), NOT_POSSIBLE);
+        x.setHour(0, 5);
+        due("21: 16 to 18 tip in the sixth tick", x.bestSize(0), 16);
+        due("21: the size is as it was", x.cup(0, 0), 10);
+        x.setHour(0, 0);
+        due("21: the first tick", x.bestSize(0), 1);
+        x.set(0, 99);
+        x.setHour(0, 1);
+        due("21: all tip in the first tick", x.bestSize(0), NONE);
+        x.set(0, 3);
+        x.setHour(0, 8);
+        due("21: 25 to 27", x.bestSize(0), 25);
+        x.turnLock(0);
+        due("21: held", x.bestSize(0), NONE);
+        x.turnLock(0);
+        x.set(0, 9);
+        x.setHour(0, 10);
+        due("21: 91 to 99", x.bestSize(0), 91);
+        x.setHour(0, 11);
+        due("21: a size of 100 would be needed", x.bestSize(0), NONE);
+        x.setHour(0, 24);
+        due("21: an hour that never comes", x.bestSize(0), NONE);
+
+        CupFountain y = new CupFountain();
+        y.setHour(3, 7);
+        due("21: behind others", y.bestSize(3), 13);
+        y.guard(3);
+        due("21: with a guard", y.bestSize(3), 1);
+        y.guard(3);
+        y.fill(3, 40);
+        due("21: with water: 53 to 64", y.bestSize(3), 53);
+        y.set(2, 6);
+        y.setHour(3, 1);
+        due("21: the next tip, not a later one", y.bestSize(3), 53);
+        due("21: no act", y.count(13), 4);
+
+        // The tick 499 has the hour 21 of 239, and is the first that spills with
+        // it; the tick 509 is the first with the hour 31, and beyond 500 ticks.
+        CupFountain edge = edgeOf500(10);
+        edge.set(2, 239);
+        edge.setHour(7, 21);
+        due("21: just within 500", edge.bestSize(7), 60);
+        edge.setHour(7, 31);
+        due("21: just beyond", edge.bestSize(7), NONE);
+    }
+
+    private static void promise22IfTicks() {
+        CupFountain x = new CupFountain();
+        for (int ticks : new int[] {0, 501, -1, Integer.MIN_VALUE, Integer.MAX_VALUE}) {
+            due("22: ticks " + ticks, x.ifTicks(ticks, 0), BAD_VALUE);
+        }
+        for (int what : new int[] {-1, 4, Integer.MIN_VALUE, Integer.MAX_VALUE}) {
+            due("22: what " + what, x.ifTicks(1, what), BAD_VALUE);
+        }
+        due("22: one tick", x.ifTicks(1, 3), 0);
+        due("22: four ticks", x.ifTicks(4, 3), 8);
+        due("22: 500 ticks", x.ifTicks(500, 3), 125 * 8);
+        due("22: without hours", x.ifTicks(500, 0) + x.ifTicks(500, 1) + x.ifTicks(500, 2), 0);
+        x.set(0, 10);
+        x.setHour(1, 10);
+        x.setHour(2, 20);
+        x.pass(30);
+        due("22: on time", x.ifTicks(24, 0), 2);
+        due("22: early", x.ifTicks(24, 1), 30);
+        due("22: late", x.ifTicks(24, 2), 16);
+        due("22: all", x.ifTicks(24, 3), 24 * 8);
+        due("22: at first", x.ifTicks(5, 0), 1);
+        due("22: nothing passed", x.count(0), 30);
+    }
+
+    private static void promise23Highest() {
+        CupFountain x = dry();
+        for (int cup = 0; cup < 8; cup++) {
+            x.setCup(cup, 2, 8);
+        }
+        due("23: none", x.highest(), NONE);
+        x.fill(5, 12);
+        x.pass(1);
+        due("23: the only one", x.highest(), 5);
+        x.pass(1);
+        due("23: none again", x.highest(), NONE);
+        x.fill(2, 12);
+        x.fill(4, 13);
+        x.fill(6, 13);
+        x.pass(1);
+        due("23: of several the lowest", x.highest(), 4);
+        x.fill(7, 40);
+        x.fill(6, 31);
+        x.pass(1);
+        due("23: as high as can be", x.highest(), 6);
+        x.undo();
+        due("23: undone", x.highest(), 4);
+    }
+
+    private static void promise24Count() {
+        CupFountain x = new CupFountain();
+        for (int what : new int[] {-1, 15, Integer.MIN_VALUE, Integer.MAX_VALUE}) {
+            due("24: what " + what, x.count(what), BAD_VALUE);
+        }
+        x.setCup(2, 1, 1);
+        x.setCup(2, 0, 20);
+        x.setHour(1, 3);
+        x.fill(5, 4);
+        x.turnLock(0);
+        x.turnLock(0);
+        x.set(2, 7);
+        x.pass(10);
+        write(x, "g1");
+        // Cups 0 and 1 tip 12 in the ticks 3 and 7. Cup 2 has 12 - 5 by the end of the
+        // tick 7: 11, 10, 9, 8 and then 20 with the next 12, with which it tips.
+        int[] told = {10, 3, 6, 24 + 4 - 4 + 0, 4, 30, 4, 2 + 2 + 1 + 5, 1, 0, 3, 0, 7, 4, 2};
+        for (int what = 0; what < told.length; what++) {
+            due("24: what " + what, x.count(what), told[what]);
+        }
+        x.turnLock(0);
+        x.turnLock(7);
+        x.fill(7, 10);
+        x.fill(0, 4);
+        due("24: full ones", x.count(9), 2);
+        due("24: all the water", x.count(2) + x.count(3) + x.count(4), x.count(5) + x.count(6));
+    }
+
+    private static void whatIsToldChangesNothing() {
+        CupFountain x = new CupFountain();
+        perform(x, "h0@3;g0;h2@20;f3+5;.30");
+        int[] told = all(x);
+        for (int cup = 0; cup < 8; cup++) {
+            x.reason(cup);
+            x.tipsIn(cup);
+            x.tipsAt(cup);
+            x.bestSize(cup);
+        }
+        x.starving();
+        x.ifTicks(500, 3);
+        x.highest();
+        same("what is told", x, told);
+        due("what is told is no act", x.count(13), 1);
+    }
+}
