@@ -361,7 +361,8 @@ public final class CupFountain {
         /** Tips the cup; answers the water that leaves it. */
         int tip(int hourNow) {
             int spilled = water;
-            jet = size > 0 ? Math.min(MOST_JET, 10 * water / size) : 0;
+            int height = size > 0 ? 10 * water / size : 0;
+            jet = height < MOST_JET ? height : MOST_JET;
             water = 0;
             tips++;
             if (hour == NO_HOUR) {
@@ -379,7 +380,7 @@ public final class CupFountain {
 
         /** Answers the water for which a cup that does not tip has no room. */
         int runOver() {
-            int over = Math.max(0, water - MOST_WATER);
+            int over = water > MOST_WATER ? water - MOST_WATER : 0;
             water -= over;
             return over;
         }

@@ -32,6 +32,7 @@ public final class PromisesTest {
         promise12Stopped();
         promise13Undo();
         promise13UndoBringsAllBack();
+        promise13UndoOfEachAct();
         promise14Keep();
         promise15Restore();
         promise16Cup();
@@ -496,11 +497,11 @@ public final class PromisesTest {
     }
 
     private static void promise11Faults() {
-        String[] texts = {"", "x", "h", "h8", "h-", "h0", "h0=5", "h0@", "h0@-", "h0@05", "h0@240", "h0@300",
+        String[] texts = {"", "x", "h", "h8", "h-", "h0", "h0=5", "h0@", "h0@-", "h0@05", "h0@240", "h0@241", "h0@249", "h0@300",
             "h0@2390", "h0@1000", "h0@5 ", "s", "s9", "s0@5", "s0=", "s0=0", "s0=01", "s0=100", "s0=99;", "f", "f8",
             "f0", "f0=1", "f0+", "f0+0", "f0+100", "f0+99g", "g", "g8", "g0.", "g0;", "g0;;", ".", ".0", ".100",
             ".99.", ".1;.1;.1;", ".1;.1;x", ";", "H0@5", "h 0@5", "s0=9;s0=", "h0@0;", "h0@00", ".a"};
-        int[] faults = {0, 0, 1, 1, 1, 2, 2, 3, 3, 4, 5, 5,
+        int[] faults = {0, 0, 1, 1, 1, 2, 2, 3, 3, 4, 5, 5, 5, 5,
             6, 6, 4, 1, 1, 2, 3, 3, 3, 5, 6, 1, 1,
             2, 2, 3, 3, 5, 5, 1, 1, 2, 3, 3, 1, 1, 3,
             3, 9, 6, 0, 0, 1, 8, 5, 4, 1};
@@ -653,6 +654,47 @@ public final class PromisesTest {
         x.setCup(5, 2, 8);
         x.undo();
         same("13: where it spills", x, told);
+        x.set(1, 7);
+        x.undo();
+        same("13: what comes back", x, told);
+    }
+
+    /** Each act behind another one: what comes back is what was just before it. */
+    private static void promise13UndoOfEachAct() {
+        for (int act = 0; act < 9; act++) {
+            CupFountain x = new CupFountain();
+            x.setHour(2, 4);
+            x.keep();
+            x.pass(act + 1);
+            int[] told = all(x);
+            checks.holds("13: it is an act: " + act, doAct(x, act) >= 0);
+            due("13: recorded: " + act, x.count(13), 3);
+            due("13: undone: " + act, x.undo(), 2);
+            same("13: the act " + act, x, told);
+        }
+    }
+
+    private static int doAct(CupFountain x, int act) {
+        switch (act) {
+            case 0:
+                return x.setCup(1, 0, 20);
+            case 1:
+                return x.turnLock(1);
+            case 2:
+                return x.setHour(2, -1);
+            case 3:
+                return x.guard(2);
+            case 4:
+                return x.fill(1, 5);
+            case 5:
+                return x.set(2, 9);
+            case 6:
+                return x.pass(9);
+            case 7:
+                return perform(x, "g2;.9");
+            default:
+                return x.restore();
+        }
     }
 
     /** All that is told of a state. */
@@ -922,6 +964,14 @@ public final class PromisesTest {
         due("21: 91 to 99", x.bestSize(0), 91);
         x.setHour(0, 11);
         due("21: a size of 100 would be needed", x.bestSize(0), NONE);
+        x.set(0, 3);
+        x.fill(0, 95);
+        x.setHour(0, 1);
+        due("21: only 99", x.bestSize(0), 99);
+        x.fill(0, 1);
+        due("21: not even 99", x.bestSize(0), NONE);
+        x.undo();
+        x.undo();
         x.setHour(0, 24);
         due("21: an hour that never comes", x.bestSize(0), NONE);
 
@@ -992,6 +1042,13 @@ public final class PromisesTest {
         x.fill(6, 31);
         x.pass(1);
         due("23: as high as can be", x.highest(), 6);
+        x.fill(0, 35);
+        x.fill(7, 35);
+        x.pass(1);
+        due("23: the first", x.highest(), 0);
+        x.undo();
+        x.undo();
+        x.undo();
         x.undo();
         due("23: undone", x.highest(), 4);
     }
