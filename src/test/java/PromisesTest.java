@@ -1,16 +1,8 @@
 /** The promises of the document, one after the other; what is due is told by its words alone. */
-public final class PromisesTest {
-    private static final int UNKNOWN = CupFountain.UNKNOWN;
-    private static final int BAD_VALUE = CupFountain.BAD_VALUE;
-    private static final int FULL = CupFountain.FULL;
-    private static final int NOT_POSSIBLE = CupFountain.NOT_POSSIBLE;
-    private static final int NONE = CupFountain.NONE;
+public final class PromisesTest extends Fountains {
     private static final int[] FAR_OFF = {Integer.MIN_VALUE, -2, 1000, Integer.MAX_VALUE};
 
-    private static final Checks checks = new Checks();
-
     public static void main(String[] args) {
-        constants();
         promise1NewObject();
         promise2SetCup();
         promise3TurnLock();
@@ -30,15 +22,18 @@ public final class PromisesTest {
         promise11Perform();
         promise11AllOrNothing();
         promise12Stopped();
+        promise12LastThing();
         promise13Undo();
         promise13UndoBringsAllBack();
         promise13UndoOfEachAct();
         promise14Keep();
         promise15Restore();
+        promise15RestoreWhatIsSoAlready();
         promise16Cup();
         promise16Jet();
         promise16Times();
         promise17Reason();
+        promise17Edges();
         promise18TipsIn();
         promise19TipsAt();
         promise20Starving();
@@ -46,46 +41,11 @@ public final class PromisesTest {
         promise22IfTicks();
         promise23Highest();
         promise24Count();
+        promise24FullCups();
+        promise24TextAndHistory();
+        promise24AccountsAddUp();
         whatIsToldChangesNothing();
         checks.close("PromisesTest");
-    }
-
-    private static void due(String call, long got, long want) {
-        checks.due(call, got, want);
-    }
-
-    /** Puts another text in place of the one that is. */
-    private static void write(CupFountain x, String text) {
-        x.clearText();
-        for (int i = 0; i < text.length(); i++) {
-            x.type(text.charAt(i));
-        }
-    }
-
-    private static int perform(CupFountain x, String text) {
-        write(x, text);
-        return x.perform();
-    }
-
-    /** A fountain whose spring is dry. */
-    private static CupFountain dry() {
-        CupFountain x = new CupFountain();
-        x.set(0, 0);
-        return x;
-    }
-
-    private static void fillUp(CupFountain x, int cup, int times) {
-        for (int i = 0; i < times; i++) {
-            x.fill(cup, 99);
-        }
-    }
-
-    private static void constants() {
-        due("UNKNOWN", UNKNOWN, -1);
-        due("BAD_VALUE", BAD_VALUE, -2);
-        due("FULL", FULL, -3);
-        due("NOT_POSSIBLE", NOT_POSSIBLE, -4);
-        due("NONE", NONE, -5);
     }
 
     private static void promise1NewObject() {
@@ -289,7 +249,7 @@ public final class PromisesTest {
         due("6: an error fills nothing", x.count(6), 100);
 
         CupFountain y = dry();
-        fillUp(y, 3, 100);
+        pour(y, 3, 9900);
         due("6: nearly the most", y.cup(3, 3), 9900);
         due("6: the most", y.fill(3, 99), 9999);
         due("6: one more", y.fill(3, 1), FULL);
@@ -419,7 +379,7 @@ public final class PromisesTest {
     private static void promise8MostWater() {
         CupFountain x = new CupFountain();
         x.turnLock(0);
-        fillUp(x, 0, 101);
+        pour(x, 0, MOST_WATER);
         x.pass(1);
         due("8: the most that a full one keeps", x.cup(0, 3), 9999);
         due("8: the rest is in the basin", x.count(3), 3);
@@ -430,40 +390,45 @@ public final class PromisesTest {
 
         CupFountain y = dry();
         y.turnLock(2);
-        fillUp(y, 2, 101);
-        fillUp(y, 1, 101);
+        pour(y, 2, MOST_WATER);
+        pour(y, 1, MOST_WATER);
         due("8: one tips into a full one", y.pass(1), 1);
         due("8: that keeps the most", y.cup(2, 3), 9999);
         due("8: the basin has the rest", y.count(3), 9999);
 
         CupFountain z = dry();
-        fillUp(z, 2, 101);
-        fillUp(z, 1, 101);
+        pour(z, 2, MOST_WATER);
+        pour(z, 1, MOST_WATER);
         due("8: one that tips spills all", z.pass(1), 7);
         due("8: of it nothing is kept", z.count(3), 2 * 9999);
     }
 
     private static void promise8LastTick() {
-        CupFountain x = new CupFountain();
-        write(x, ".99;.99;.99;.99;.99;.99;.99;.99;.99;.99;.99;.99;.99;.99;.99");
-        for (int i = 0; i < 67; i++) {
-            due("8: days pass", x.perform(), 15);
-        }
-        due("8: far on", x.count(0), 99495);
-        due("8: a plan too far", x.perform(), NOT_POSSIBLE);
-        due("8: stopped there", x.stopped(0), 5);
-        due("8: as it is full", x.stopped(1), FULL);
-        due("8: nothing passed", x.count(0), 99495);
-        for (int i = 0; i < 5; i++) {
-            x.pass(99);
-        }
-        due("8: further", x.count(0), 99990);
-        due("8: too far", x.pass(10), FULL);
-        due("8: out of range comes first", x.pass(100), BAD_VALUE);
-        due("8: to the last", x.pass(9) >= 0 ? 1 : 0, 1);
-        due("8: the last", x.count(0), 99999);
+        CupFountain x = atTheLastTicks(99900);
+        due("8: just as many as there are", x.pass(99), 0);
+        due("8: to the last at once", x.count(0), 99999);
         due("8: beyond", x.pass(1), FULL);
-        due("8: what is told looks beyond", x.tipsIn(0) > 0 ? 1 : 0, 1);
+        due("8: far beyond", x.pass(99), FULL);
+        due("8: out of range comes first", x.pass(100), BAD_VALUE);
+        due("8: nothing passed", x.count(0), 99999);
+        due("8: its hour", x.count(1), 99999 % 24);
+
+        CupFountain y = atTheLastTicks(99990);
+        y.set(0, 10);
+        due("8: too far", y.pass(10), FULL);
+        due("8: nothing tips", y.count(7), 0);
+        due("8: to the last", y.pass(9), 9 * 8);
+        due("8: the last", y.count(0), 99999);
+        due("8: what is told looks beyond", y.tipsIn(0), 1);
+        due("8: and in what hour", y.tipsAt(0), 99999 % 24);
+
+        CupFountain z = atTheLastTicks(99999 - 20);
+        due("8: a plan too far", perform(z, ".9;.9;.2;.1"), NOT_POSSIBLE);
+        due("8: nothing of it passed", z.count(0), 99999 - 20);
+        due("8: stopped there", z.stopped(0), 3);
+        due("8: as it is full", z.stopped(1), FULL);
+        due("8: a plan just to the last", perform(z, ".9;.9;.2"), 3);
+        due("8: passed", z.count(0), 99999);
     }
 
     private static void promise9Type() {
@@ -587,7 +552,7 @@ public final class PromisesTest {
         perform(x, "g0");
         due("12: the first", x.stopped(0), 0);
         due("12: its error", x.stopped(1), NOT_POSSIBLE);
-        fillUp(x, 0, 101);
+        pour(x, 0, MOST_WATER);
         perform(x, "s1=5;f0+1;g0");
         due("12: the latest", x.stopped(0), 1);
         due("12: its error", x.stopped(1), FULL);
@@ -599,6 +564,19 @@ public final class PromisesTest {
         due("12: it is no part of a state", x.stopped(0), 1);
         due("12: out of range still", x.stopped(2), BAD_VALUE);
         due("12: far out of range", x.stopped(Integer.MIN_VALUE), BAD_VALUE);
+        due("12: far out of range", x.stopped(Integer.MAX_VALUE), BAD_VALUE);
+    }
+
+    private static void promise12LastThing() {
+        CupFountain x = dry();
+        String most = ".1;.1;.1;.1;.1;.1;.1;.1;.1;.1;.1;.1;.1;.1;.1;.1;.1;.1;.1;g0";
+        due("12: the last of as many as fit in", perform(x, most), NOT_POSSIBLE);
+        due("12: its number", x.stopped(0), 19);
+        due("12: its error", x.stopped(1), NOT_POSSIBLE);
+        due("12: no tick of it passed", x.count(0), 0);
+        x.setHour(0, 30);
+        due("12: with an hour", x.perform(), 20);
+        due("12: the latest stays", x.stopped(0), 19);
     }
 
     private static void promise13Undo() {
@@ -626,6 +604,16 @@ public final class PromisesTest {
     }
 
     private static void promise13UndoBringsAllBack() {
+        for (int act = 0; act < 8; act++) {
+            CupFountain x = inUse();
+            int[] told = all(x);
+            checks.holds("13: it is an act: " + act, doAnother(x, act) >= 0);
+            due("13: undone", x.undo(), 3);
+            same("13: the act " + act + " on one in use", x, told);
+        }
+    }
+
+    private static CupFountain inUse() {
         CupFountain x = new CupFountain();
         perform(x, "h0@3;g0;h2@20;f3+5");
         x.setCup(0, 1, 1);
@@ -635,28 +623,28 @@ public final class PromisesTest {
         x.set(1, 2);
         x.set(2, 20);
         x.pass(30);
-        int[] told = all(x);
-        x.pass(30);
-        x.undo();
-        same("13: ticks", x, told);
-        perform(x, "s0=1;h0@7;g0;f7+99;.40");
-        x.undo();
-        same("13: a plan", x, told);
-        x.turnLock(6);
-        x.undo();
-        same("13: a lock", x, told);
-        x.set(0, 9);
-        x.undo();
-        same("13: a setting", x, told);
-        x.setHour(0, -1);
-        x.undo();
-        same("13: an hour", x, told);
-        x.setCup(5, 2, 8);
-        x.undo();
-        same("13: where it spills", x, told);
-        x.set(1, 7);
-        x.undo();
-        same("13: what comes back", x, told);
+        return x;
+    }
+
+    private static int doAnother(CupFountain x, int act) {
+        switch (act) {
+            case 0:
+                return x.pass(30);
+            case 1:
+                return perform(x, "s0=1;h0@7;g0;f7+99;.40");
+            case 2:
+                return x.turnLock(6);
+            case 3:
+                return x.set(0, 9);
+            case 4:
+                return x.setHour(0, -1);
+            case 5:
+                return x.setCup(5, 2, 8);
+            case 6:
+                return x.set(1, 7);
+            default:
+                return x.guard(2);
+        }
     }
 
     /** Each act behind another one: what comes back is what was just before it. */
@@ -697,25 +685,6 @@ public final class PromisesTest {
         }
     }
 
-    /** All that is told of a state. */
-    private static int[] all(CupFountain x) {
-        int[] told = new int[8 * 12 + 13];
-        for (int i = 0; i < 8 * 12; i++) {
-            told[i] = x.cup(i / 12, i % 12);
-        }
-        for (int i = 0; i < 13; i++) {
-            told[8 * 12 + i] = x.count(i);
-        }
-        return told;
-    }
-
-    private static void same(String what, CupFountain x, int[] told) {
-        int[] now = all(x);
-        for (int i = 0; i < told.length; i++) {
-            due(what + " [" + i + "]", now[i], told[i]);
-        }
-    }
-
     private static void promise14Keep() {
         CupFountain x = new CupFountain();
         due("14: the tick", x.keep(), 0);
@@ -750,10 +719,20 @@ public final class PromisesTest {
         same("15: all of it again", x, told);
         x.undo();
         due("15: undone", x.count(0), 22);
-        x.restore();
-        due("15: again", x.restore(), 13);
-        x.undo();
-        same("15: even what is so already is recorded", x, told);
+    }
+
+    private static void promise15RestoreWhatIsSoAlready() {
+        CupFountain x = dry();
+        x.pass(7);
+        x.keep();
+        due("15: as it is already", x.restore(), 7);
+        due("15: is an act", x.count(13), 3);
+        due("15: undone", x.undo(), 2);
+        due("15: it is as it was", x.count(0), 7);
+        CupFountain y = dry();
+        y.keep();
+        due("15: the tick 0", y.restore(), 0);
+        due("15: is no error and not NONE", y.count(13), 2);
     }
 
     private static void promise16Cup() {
@@ -856,6 +835,52 @@ public final class PromisesTest {
         due("17: its hour never comes", x.reason(5), 1);
     }
 
+    private static void promise17Edges() {
+        CupFountain x = dry();
+        x.fill(7, 9);
+        due("17: one less than its size", x.reason(7), 3);
+        x.fill(7, 1);
+        due("17: its size", x.reason(7), 0);
+        x.setCup(7, 1, 9);
+        due("17: it drips behind", x.reason(7), 0);
+        x.setCup(7, 0, 11);
+        due("17: one more than its water", x.reason(7), 3);
+        x.set(0, 1);
+        x.setCup(0, 0, 1);
+        x.setCup(0, 2, 7);
+        due("17: with what will be spilled into it", x.reason(7), 0);
+        x.turnLock(0);
+        due("17: not with what is held", x.reason(7), 3);
+
+        CupFountain y = dry();
+        passTo(y, 23);
+        y.setHour(7, 0);
+        y.guard(7);
+        due("17: the guard is told ahead of the lock and the water", y.reason(7), 1);
+        y.fill(7, 10);
+        due("17: the hour before midnight", y.reason(7), 1);
+        y.pass(1);
+        due("17: midnight", y.reason(7), 0);
+        y.pass(1);
+        due("17: the hour behind midnight", y.reason(7), 1);
+        y.guard(7);
+        due("17: without the guard", y.reason(7), 3);
+        y.turnLock(7);
+        due("17: the lock is told ahead of the water", y.reason(7), 2);
+        y.fill(7, 10);
+        due("17: and with water", y.reason(7), 2);
+        y.setHour(7, 1);
+        due("17: also in its hour", y.reason(7), 2);
+
+        CupFountain z = dry();
+        z.fill(7, 30);
+        z.set(1, 10);
+        z.setCup(0, 0, 10);
+        due("17: nothing comes back yet", z.reason(0), 3);
+        z.pass(1);
+        due("17: what comes back counts", z.reason(0), 0);
+    }
+
     private static CupFountain dryAndShut() {
         CupFountain x = dry();
         x.turnLock(6);
@@ -883,6 +908,20 @@ public final class PromisesTest {
         y.fill(0, 10);
         due("18: held till the next day", y.tipsIn(0), 240 + 19 - 99 + 1);
 
+        y.turnLock(7);
+        due("18: held by hand, no day opens it", y.tipsIn(7), NONE);
+        y.pass(99);
+        due("18: a day less those that passed", y.tipsIn(0), 240 + 19 - 198 + 1);
+
+        CupFountain w = dry();
+        w.set(0, 1);
+        w.setCup(0, 0, 99);
+        due("18: 99 ticks for 99", w.tipsIn(0), 99);
+        w.setCup(0, 1, 1);
+        due("18: never, as all drips", w.tipsIn(0), NONE);
+        w.setCup(0, 0, 1);
+        due("18: in each tick, as it drips behind", w.tipsIn(0), 1);
+
         CupFountain z = edgeOf500(60);
         due("18: just within 500", z.tipsIn(7), 500);
         due("18: just beyond", edgeOf500(61).tipsIn(7), NONE);
@@ -900,6 +939,17 @@ public final class PromisesTest {
         due("19: the next tick", x.tipsAt(0), 23);
         x.pass(1);
         due("19: the next day", x.tipsAt(0), 3);
+        x.pass(20);
+        due("19: the last ticks of a day", x.tipsAt(0), 23);
+        x.fill(0, 1);
+        x.setCup(0, 0, 13);
+        due("19: round to the hour 0", x.tipsAt(0), 23);
+        x.setCup(0, 0, 14);
+        due("19: round to the hour 0", x.tipsAt(0), 0);
+        x.set(2, 1);
+        due("19: the only hour of a day", x.tipsAt(0), 0);
+        x.set(2, 240);
+        due("19: of a long day", x.tipsAt(0), 48);
         x.turnLock(0);
         due("19: never", x.tipsAt(0), NONE);
         due("19: just within 500", edgeOf500(60).tipsAt(7), 499 % 24);
@@ -923,21 +973,6 @@ public final class PromisesTest {
         due("20: just within 500", edge.starving(), NONE);
         edge.setCup(7, 0, 61);
         due("20: just beyond", edge.starving(), 7);
-    }
-
-    /**
-     * The spring gives 2 and the cup 0 leaks 1, so that it wins 1 in a tick and
-     * spills 11 in each 10th. The cup 7 gets these 11 and leaks 10 till the next
-     * ones come: in the k-th of these ticks it has 10 + k.
-     */
-    private static CupFountain edgeOf500(int size) {
-        CupFountain x = new CupFountain();
-        x.set(0, 2);
-        x.setCup(0, 0, 11);
-        x.setCup(0, 1, 1);
-        x.setCup(7, 1, 1);
-        x.setCup(7, 0, size);
-        return x;
     }
 
     private static void promise21BestSize() {
@@ -988,6 +1023,19 @@ public final class PromisesTest {
         due("21: the next tip, not a later one", y.bestSize(3), 53);
         due("21: no act", y.count(13), 4);
 
+        CupFountain z = new CupFountain();
+        passTo(z, 20);
+        z.setHour(0, 0);
+        due("21: it has just tipped", z.cup(0, 3), 0);
+        due("21: round to the hour 0: 13 to 15", z.bestSize(0), 13);
+        z.setHour(0, 19);
+        due("21: the hour before, of the next day: 70 to 72", z.bestSize(0), 70);
+        z.setHour(0, 20);
+        due("21: the hour that is: 1 to 3", z.bestSize(0), 1);
+        z.set(2, 1);
+        z.setHour(0, 0);
+        due("21: the only hour of a day", z.bestSize(0), 1);
+
         // The tick 499 has the hour 21 of 239, and is the first that spills with
         // it; the tick 509 is the first with the hour 31, and beyond 500 ticks.
         CupFountain edge = edgeOf500(10);
@@ -1020,6 +1068,15 @@ public final class PromisesTest {
         due("22: all", x.ifTicks(24, 3), 24 * 8);
         due("22: at first", x.ifTicks(5, 0), 1);
         due("22: nothing passed", x.count(0), 30);
+        CupFountain y = edgeOf500(60);
+        y.setHour(7, 499 % 24);
+        due("22: one tick less than it needs", y.ifTicks(499, 0), 0);
+        due("22: just as many", y.ifTicks(500, 0), 1);
+        y.setHour(7, 499 % 24 + 1);
+        due("22: then it is early", y.ifTicks(500, 1), 1);
+        y.setHour(7, 499 % 24 - 1);
+        due("22: then it is late", y.ifTicks(500, 2), 1);
+        due("22: and it is the only one", y.ifTicks(500, 0) + y.ifTicks(500, 1), 0);
     }
 
     private static void promise23Highest() {
@@ -1079,6 +1136,70 @@ public final class PromisesTest {
         x.fill(0, 4);
         due("24: full ones", x.count(9), 2);
         due("24: all the water", x.count(2) + x.count(3) + x.count(4), x.count(5) + x.count(6));
+    }
+
+    private static void promise24FullCups() {
+        CupFountain x = dry();
+        due("24: empty ones are not full", x.count(9), 0);
+        x.setCup(0, 0, 1);
+        due("24: not even of the size 1", x.count(9), 0);
+        x.fill(7, 9);
+        due("24: one less than its size", x.count(9), 0);
+        x.fill(7, 1);
+        due("24: its size", x.count(9), 1);
+        x.fill(7, 1);
+        due("24: one more", x.count(9), 1);
+        x.setCup(7, 0, 12);
+        due("24: a larger one", x.count(9), 0);
+        for (int cup = 0; cup < 8; cup++) {
+            x.fill(cup, 99);
+        }
+        due("24: all", x.count(9), 8);
+        x.pass(1);
+        due("24: all have tipped", x.count(9), 0);
+    }
+
+    private static void promise24TextAndHistory() {
+        CupFountain x = new CupFountain();
+        for (int length = 1; length <= 61; length++) {
+            x.type('g');
+            due("24: the length of the text", x.count(14), Math.min(length, 60));
+        }
+        for (int acts = 1; acts <= 6; acts++) {
+            x.fill(0, 1);
+            due("24: the states in the history", x.count(13), Math.min(acts, 4));
+        }
+    }
+
+    private static void promise24AccountsAddUp() {
+        CupFountain x = new CupFountain();
+        x.set(0, 99);
+        x.set(1, 40);
+        x.setCup(2, 1, 9);
+        x.setCup(4, 2, 8);
+        x.setHour(6, 5);
+        x.guard(6);
+        x.turnLock(1);
+        int filled = 0;
+        for (int i = 0; i < 30; i++) {
+            x.pass(17);
+            // The cup 1 is shut, and is full at last.
+            filled += x.fill(i % 8, 90) == FULL ? 0 : 90;
+            due("24: all the water", x.count(2) + x.count(3) + x.count(4), x.count(5) + x.count(6));
+            int inCups = 0;
+            int tips = 0;
+            for (int cup = 0; cup < 8 && i % 10 == 9; cup++) {
+                inCups += x.cup(cup, 3);
+                tips += x.cup(cup, 8);
+            }
+            if (i % 10 == 9) {
+                due("24: the water of the cups", x.count(2), inCups);
+                due("24: the tips of the cups", x.count(7), tips);
+            }
+        }
+        due("24: of the spring in each tick", x.count(5), 30 * 17 * 99);
+        due("24: of the gardener", x.count(6), filled);
+        due("24: but for what was refused", filled, 27 * 90);
     }
 
     private static void whatIsToldChangesNothing() {
