@@ -52,7 +52,7 @@ abstract class Fountains {
 
     /** Lets ticks pass up to a tick, by 99 at most at a time. */
     static void passTo(CupFountain x, int tick) {
-        int left = tick - x.count(0);
+        int left = Math.min(tick - x.count(0), 1000);
         while (left > 0) {
             int part = Math.min(left, 99);
             x.pass(part);
@@ -64,7 +64,7 @@ abstract class Fountains {
     static CupFountain atTheLastTicks(int tick) {
         CupFountain x = dry();
         write(x, ".99;.99;.99;.99;.99;.99;.99;.99;.99;.99;.99;.99;.99;.99;.99");
-        while (x.count(0) + 15 * 99 <= tick) {
+        for (int i = 0; i < tick / (15 * 99); i++) {
             x.perform();
         }
         passTo(x, tick);

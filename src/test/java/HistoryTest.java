@@ -289,7 +289,7 @@ public final class HistoryTest extends Fountains {
         perform(x, "h1@3;g1;h2@20;f7+12;.5");
         x.keep();
         x.turnLock(6);
-        pour(x, 6, MOST_WATER);
+        pour(x, 6, 9950);
         x.setCup(4, 1, 2);
         x.turnLock(5);
         x.set(1, 2);
@@ -337,7 +337,8 @@ public final class HistoryTest extends Fountains {
             new Refused("fill of no cup", UNKNOWN, rich, x -> x.fill(8, 5)),
             new Refused("fill with nothing", BAD_VALUE, rich, x -> x.fill(0, 0)),
             new Refused("fill with too much", BAD_VALUE, rich, x -> x.fill(0, 100)),
-            new Refused("fill of a full one", FULL, rich, x -> x.fill(6, 1)),
+            new Refused("fill with one more than there is room for", FULL, rich, x -> x.fill(6, 50)),
+            new Refused("fill with more than there is room for", FULL, rich, x -> x.fill(6, 99)),
             new Refused("set of no setting", UNKNOWN, rich, x -> x.set(3, 5)),
             new Refused("set of no spring", BAD_VALUE, rich, x -> x.set(0, 100)),
             new Refused("set of no way back", BAD_VALUE, rich, x -> x.set(1, -1)),
@@ -377,7 +378,7 @@ public final class HistoryTest extends Fountains {
         refusedPlan("no text", "", -100, 1, NOT_POSSIBLE);
         refusedPlan("no hour", "s0=5;f0+7;.9;h3@9;g3;g0", NOT_POSSIBLE, 5, NOT_POSSIBLE);
         refusedPlan("at once", "g0;s0=5;f0+7", NOT_POSSIBLE, 0, NOT_POSSIBLE);
-        refusedPlan("no room for water", "g1;h1@4;s0=5;f6+1", NOT_POSSIBLE, 3, FULL);
+        refusedPlan("no room for water", "g1;h1@4;s0=5;f6+50", NOT_POSSIBLE, 3, FULL);
         CupFountain x = late();
         int[] told = all(x);
         due("beyond the last tick", perform(x, "f0+3;.1;.1;s0=5"), NOT_POSSIBLE);

@@ -45,6 +45,7 @@ public final class TermsTest extends Fountains {
 
         heightOfAJet();
         jetStandsForOneTick();
+        jetOfEachCup();
         checks.close("TermsTest");
     }
 
@@ -672,5 +673,34 @@ public final class TermsTest extends Fountains {
         due("a shut one, till it does not tip", x.cup(7, 7), 11);
         x.pass(1);
         due("full and shut", x.cup(7, 7), 0);
+    }
+
+    // ".. of the next tick in which the cup does not tip": that cup, whatever the others do.
+    private static void jetOfEachCup() {
+        CupFountain x = dry();
+        x.setCup(2, 2, BASIN);
+        x.fill(2, 12);
+        x.fill(7, 13);
+        x.pass(1);
+        due("one of two", x.cup(2, 7), 12);
+        due("the other", x.cup(7, 7), 13);
+        x.fill(7, 14);
+        x.pass(1);
+        due("the one that does not tip", x.cup(2, 7), 0);
+        due("the one that tips", x.cup(7, 7), 14);
+
+        CupFountain y = dry();
+        y.setHour(7, 0);
+        y.guard(7);
+        y.fill(7, 15);
+        y.pass(1);
+        due("of one with a guard", y.cup(7, 7), 15);
+        y.fill(7, 20);
+        y.pass(1);
+        due("that is held then", y.cup(7, 7), 0);
+        passTo(y, 24);
+        due("till its hour", y.cup(7, 7), 0);
+        y.pass(1);
+        due("in its hour", y.cup(7, 7), 20);
     }
 }
