@@ -209,24 +209,25 @@ public final class CupFountain {
     }
 
     public int bestSize(int cup) {
-        Cup told = now.find(cup);
-        if (told == null) {
+        ahead.copyFrom(now);
+        Cup watched = ahead.find(cup);
+        if (watched == null) {
             return UNKNOWN;
         }
-        if (told.hour == NO_HOUR) {
+        if (watched.hour == NO_HOUR) {
             return NOT_POSSIBLE;
         }
-        for (int size = 1; size <= MOST_SIZE; size++) {
-            ahead.copyFrom(now);
-            ahead.changeCup(cup, SIZE, size);
-            int hour = hourOfTip(cup);
-            if (hour == told.hour) {
-                return size;
+        // A cup's size changes nothing before it tips, so that one look-ahead with
+        // a size beyond all serves for all sizes: each would tip as it is reached.
+        watched.size = MOST_SIZE + 1;
+        int reached = 0;
+        for (int ticks = 0; ticks < MOST_AHEAD && reached < MOST_SIZE; ticks++) {
+            boolean isHour = ahead.hourOf(ahead.tick) == watched.hour;
+            ahead.tickOnce();
+            if (isHour && watched.ready > reached) {
+                return reached + 1;
             }
-            if (hour == NONE) {
-                // A cup that is larger tips no earlier.
-                return NONE;
-            }
+            reached = Math.max(reached, watched.ready);
         }
         return NONE;
     }
@@ -334,6 +335,9 @@ public final class CupFountain {
         int onTime = 0;
         int early = 0;
         int late = 0;
+        // The water that it could spill at its turn in the latest tick: no part of
+        // what is told or copied, as each tick sets it anew.
+        int ready = 0;
 
         Cup(int next) {
             this.next = next;
@@ -650,7 +654,8 @@ public final class CupFountain {
         }
 
         private int tipOrKeep(Cup cup, int hourNow) {
-            if (!cup.isFull() || !cup.open) {
+            cup.ready = cup.open ? cup.water : 0;
+            if (cup.ready < cup.size) {
                 cup.jet = 0;
                 basin += cup.runOver();
                 return 0;

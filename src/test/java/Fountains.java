@@ -87,6 +87,16 @@ abstract class Fountains {
         return x;
     }
 
+    /**
+     * As edgeOf500, but the cup 0 spills in the first tick, and so for the 51st
+     * time in the 501st one: there the cup 7 tips, one tick beyond the 500.
+     */
+    static CupFountain edgeOf501() {
+        CupFountain x = edgeOf500(61);
+        x.fill(0, 9);
+        return x;
+    }
+
     /** All that is told of a state; takes 109 calls of the 512. */
     static int[] all(CupFountain x) {
         int[] told = new int[8 * 12 + 13];

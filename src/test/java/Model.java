@@ -6,7 +6,7 @@ import java.util.regex.Pattern;
 /**
  * The document once more, with all of Java's library and built otherwise than
  * the program: a state is a table that is copied, the text is read by a pattern,
- * and the best size is told by the most water that a held cup had.
+ * and the best size is found by going on with one size after the other.
  */
 final class Model {
     private static final int SIZE = 0;
@@ -61,8 +61,8 @@ final class Model {
             return c[GUARD] == 1 ? c[HOUR] != hour() : c[OPEN] == 0;
         }
 
-        /** Answers the cups that tip as a set of bits; seen[k] is what the cup k has as it may tip. */
-        int step(int[] seen) {
+        /** Answers the cups that tip as a set of bits. */
+        int step() {
             int tipping = 0;
             int back = settings[1] < basin ? settings[1] : basin;
             basin -= back;
@@ -70,7 +70,6 @@ final class Model {
             cups[0][WATER] += settings[0] + back;
             for (int k = 0; k < 8; k++) {
                 int[] c = cups[k];
-                seen[k] = c[WATER];
                 if (c[WATER] >= c[SIZE] && !isHeld(c)) {
                     tipping |= 1 << k;
                     int height = 10 * c[WATER] / c[SIZE];
@@ -247,7 +246,7 @@ final class Model {
         }
         int tips = 0;
         for (int i = 0; i < ticks; i++) {
-            tips += Integer.bitCount(now.step(new int[8]));
+            tips += Integer.bitCount(now.step());
         }
         return tips;
     }
@@ -361,7 +360,7 @@ final class Model {
             return -1;
         }
         int[] c = now.cups[cup];
-        if ((now.copy().step(new int[8]) >> cup & 1) == 1) {
+        if ((now.copy().step() >> cup & 1) == 1) {
             return 0;
         }
         if (!now.isHeld(c)) {
@@ -370,23 +369,28 @@ final class Model {
         return c[GUARD] == 1 ? 1 : 2;
     }
 
-    int tipsIn(int cup) {
-        if (!in(cup, 0, 7)) {
-            return -1;
-        }
-        Fountain f = now.copy();
+    private static int tipsIn(Fountain f, int cup) {
         int ticks = 0;
         while (ticks++ < 500) {
-            if ((f.step(new int[8]) & 1 << cup) != 0) {
+            if ((f.step() & 1 << cup) != 0) {
                 return ticks;
             }
         }
         return -5;
     }
 
+    private static int tipsAt(Fountain f, int cup) {
+        int tick = f.tick;
+        int ticks = tipsIn(f, cup);
+        return ticks < 0 ? ticks : (tick + ticks - 1) % f.settings[2];
+    }
+
+    int tipsIn(int cup) {
+        return in(cup, 0, 7) ? tipsIn(now.copy(), cup) : -1;
+    }
+
     int tipsAt(int cup) {
-        int ticks = tipsIn(cup);
-        return ticks < 0 ? ticks : (now.tick + ticks - 1) % now.settings[2];
+        return in(cup, 0, 7) ? tipsAt(now.copy(), cup) : -1;
     }
 
     int starving() {
@@ -406,23 +410,12 @@ final class Model {
         if (hour == -5) {
             return -4;
         }
-        // A size tips first as its cup first has so much while it is not held:
-        // so the sizes that are left are those above the most that it had then.
-        Fountain f = now.copy();
-        f.cups[cup][SIZE] = Integer.MAX_VALUE;
-        int most = 0;
-        int[] seen = new int[8];
-        for (int i = 0; i < 500 && most < 99; i++) {
-            int hourNow = f.hour();
-            boolean held = f.isHeld(f.cups[cup]);
-            f.step(seen);
-            if (held || seen[cup] <= most) {
-                continue;
+        for (int size = 1; size <= 99; size++) {
+            Fountain f = now.copy();
+            f.cups[cup][SIZE] = size;
+            if (tipsAt(f, cup) == hour) {
+                return size;
             }
-            if (hourNow == hour) {
-                return most + 1;
-            }
-            most = seen[cup];
         }
         return -5;
     }
@@ -435,7 +428,7 @@ final class Model {
         int[] often = new int[4];
         for (int i = 0; i < ticks; i++) {
             int hour = f.hour();
-            int tipping = f.step(new int[8]);
+            int tipping = f.step();
             for (int k = 0; k < 8; k++) {
                 if ((tipping & 1 << k) == 0) {
                     continue;

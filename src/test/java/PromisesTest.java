@@ -40,6 +40,7 @@ public final class PromisesTest extends Fountains {
         promise21BestSize();
         promise22IfTicks();
         promise23Highest();
+        promise23OfTwo();
         promise24Count();
         promise24FullCups();
         promise24TextAndHistory();
@@ -924,7 +925,11 @@ public final class PromisesTest extends Fountains {
 
         CupFountain z = edgeOf500(60);
         due("18: just within 500", z.tipsIn(7), 500);
-        due("18: just beyond", edgeOf500(61).tipsIn(7), NONE);
+        due("18: ten ticks beyond", edgeOf500(61).tipsIn(7), NONE);
+        CupFountain beyond = edgeOf501();
+        due("18: one tick beyond", beyond.tipsIn(7), NONE);
+        beyond.pass(1);
+        due("18: one tick later", beyond.tipsIn(7), 500);
     }
 
     private static void promise19TipsAt() {
@@ -953,7 +958,11 @@ public final class PromisesTest extends Fountains {
         x.turnLock(0);
         due("19: never", x.tipsAt(0), NONE);
         due("19: just within 500", edgeOf500(60).tipsAt(7), 499 % 24);
-        due("19: just beyond", edgeOf500(61).tipsAt(7), NONE);
+        due("19: ten ticks beyond", edgeOf500(61).tipsAt(7), NONE);
+        CupFountain beyond = edgeOf501();
+        due("19: one tick beyond", beyond.tipsAt(7), NONE);
+        beyond.pass(1);
+        due("19: one tick later", beyond.tipsAt(7), 500 % 24);
     }
 
     private static void promise20Starving() {
@@ -972,7 +981,11 @@ public final class PromisesTest extends Fountains {
         CupFountain edge = edgeOf500(60);
         due("20: just within 500", edge.starving(), NONE);
         edge.setCup(7, 0, 61);
-        due("20: just beyond", edge.starving(), 7);
+        due("20: ten ticks beyond", edge.starving(), 7);
+        CupFountain beyond = edgeOf501();
+        due("20: one tick beyond", beyond.starving(), 7);
+        beyond.pass(1);
+        due("20: one tick later", beyond.starving(), NONE);
     }
 
     private static void promise21BestSize() {
@@ -1043,7 +1056,14 @@ public final class PromisesTest extends Fountains {
         edge.setHour(7, 21);
         due("21: just within 500", edge.bestSize(7), 60);
         edge.setHour(7, 31);
-        due("21: just beyond", edge.bestSize(7), NONE);
+        due("21: ten ticks beyond", edge.bestSize(7), NONE);
+        // The tick 500 has the hour 22, and no tick before it spills with that one.
+        CupFountain beyond = edgeOf501();
+        beyond.set(2, 239);
+        beyond.setHour(7, 22);
+        due("21: one tick beyond", beyond.bestSize(7), NONE);
+        beyond.pass(1);
+        due("21: one tick later", beyond.bestSize(7), 61);
     }
 
     private static void promise22IfTicks() {
@@ -1108,6 +1128,29 @@ public final class PromisesTest extends Fountains {
         x.undo();
         x.undo();
         due("23: undone", x.highest(), 4);
+    }
+
+    private static void promise23OfTwo() {
+        for (int first = 0; first < 8; first++) {
+            for (int second = first + 1; second < 8; second++) {
+                due("23: the first of two is higher", highestOf(first, 13, second, 12), first);
+                due("23: the second of two is higher", highestOf(first, 12, second, 13), second);
+                due("23: both are as high", highestOf(first, 12, second, 12), first);
+                due("23: both are as high as can be", highestOf(first, 31, second, 99), first);
+                due("23: the second alone", highestOf(first, 9, second, 10), second);
+                due("23: the first alone", highestOf(first, 10, second, 9), first);
+            }
+        }
+    }
+
+    private static int highestOf(int first, int waterOfFirst, int second, int waterOfSecond) {
+        CupFountain x = dry();
+        x.setCup(first, 2, 8);
+        x.fill(first, waterOfFirst);
+        x.setCup(second, 2, 8);
+        x.fill(second, waterOfSecond);
+        x.pass(1);
+        return x.highest();
     }
 
     private static void promise24Count() {
