@@ -1,3 +1,7 @@
+import java.util.Set;
+import java.util.TreeSet;
+import java.util.function.ToIntFunction;
+
 /** The promises of the document, one after the other; what is due is told by its words alone. */
 public final class PromisesTest extends Fountains {
     private static final int[] FAR_OFF = {Integer.MIN_VALUE, -2, 1000, Integer.MAX_VALUE};
@@ -45,7 +49,9 @@ public final class PromisesTest extends Fountains {
         promise24FullCups();
         promise24TextAndHistory();
         promise24AccountsAddUp();
+        actsChangeNothingElse();
         whatIsToldChangesNothing();
+        whatIsToldIsOfTheStateThatIs();
         checks.close("PromisesTest");
     }
 
@@ -978,6 +984,13 @@ public final class PromisesTest extends Fountains {
         due("20: but those that tip once", x.starving(), 3);
         due("20: tells, but changes nothing", x.count(0), 0);
 
+        CupFountain y = new CupFountain();
+        due("20: each one tips once", y.pass(4), 8);
+        y.turnLock(6);
+        due("20: it tipped, but not again", y.starving(), 6);
+        y.set(0, 0);
+        due("20: nor does any other", y.starving(), 0);
+
         CupFountain edge = edgeOf500(60);
         due("20: just within 500", edge.starving(), NONE);
         edge.setCup(7, 0, 61);
@@ -1155,7 +1168,7 @@ public final class PromisesTest extends Fountains {
 
     private static void promise24Count() {
         CupFountain x = new CupFountain();
-        for (int what : new int[] {-1, 15, Integer.MIN_VALUE, Integer.MAX_VALUE}) {
+        for (int what : new int[] {-1, 15, 16, 100, Integer.MIN_VALUE, Integer.MAX_VALUE}) {
             due("24: what " + what, x.count(what), BAD_VALUE);
         }
         x.setCup(2, 1, 1);
@@ -1243,6 +1256,89 @@ public final class PromisesTest extends Fountains {
         due("24: of the spring in each tick", x.count(5), 30 * 17 * 99);
         due("24: of the gardener", x.count(6), filled);
         due("24: but for what was refused", filled, 27 * 90);
+    }
+
+    /** What all(x) tells in its rows for a cup, and behind them for the counts. */
+    private static int row(int cup, int what) {
+        return cup * 12 + what;
+    }
+
+    private static int countRow(int what) {
+        return 8 * 12 + what;
+    }
+
+    // The one in use has tips, early and late ones, water in cups, in the basin, lost and filled.
+    private static void actsChangeNothingElse() {
+        changesOnly("2: a size", x -> x.setCup(4, 0, 20), row(4, 0));
+        changesOnly("2: a leak", x -> x.setCup(4, 1, 9), row(4, 1));
+        changesOnly("2: into which it spills", x -> x.setCup(4, 2, 8), row(4, 2));
+        changesOnly("3: a lock", x -> x.turnLock(4), row(4, 5));
+        changesOnly("3: a lock that was shut", x -> x.turnLock(6), row(6, 5));
+        changesOnly("4: an hour", x -> x.setHour(4, 9), row(4, 4));
+        changesOnly("4: another hour", x -> x.setHour(2, 9), row(2, 4));
+        changesOnly("4: another hour of one with a guard", x -> x.setHour(0, 9), row(0, 4));
+        changesOnly("4: an hour of one that is shut", x -> x.setHour(6, 9), row(6, 4));
+        changesOnly("4: no hour", x -> x.setHour(2, -1), row(2, 4));
+        changesOnly("4: no hour for one with a guard", x -> x.setHour(0, -1), row(0, 4), row(0, 5), row(0, 6));
+        changesOnly("5: a guard", x -> x.guard(2), row(2, 5), row(2, 6));
+        changesOnly("5: no guard", x -> x.guard(0), row(0, 5), row(0, 6));
+        changesOnly("6: water", x -> x.fill(4, 5), row(4, 3), countRow(2), countRow(6));
+        changesOnly("7: the spring", x -> x.set(0, 9), countRow(10));
+        changesOnly("7: what comes back", x -> x.set(1, 9), countRow(11));
+        changesOnly("7: the day", x -> x.set(2, 11), countRow(12), countRow(1));
+        changesOnly("9: a character", x -> x.type('.'));
+        changesOnly("10: no text", x -> x.clearText());
+        changesOnly("11: a size in a plan", x -> perform(x, "s4=20"), row(4, 0));
+        changesOnly("11: an hour in a plan", x -> perform(x, "h4@9"), row(4, 4));
+        changesOnly("11: a guard in a plan", x -> perform(x, "g0"), row(0, 5), row(0, 6));
+        changesOnly("11: water in a plan", x -> perform(x, "f4+5"), row(4, 3), countRow(2), countRow(6));
+        changesOnly("14: a snapshot", x -> x.keep());
+    }
+
+    private static void changesOnly(String what, ToIntFunction<CupFountain> call, int... rows) {
+        CupFountain x = inUse();
+        int[] before = all(x);
+        checks.holds(what + " is no error", call.applyAsInt(x) >= 0);
+        int[] after = all(x);
+        Set<Integer> changed = new TreeSet<>();
+        for (int i = 0; i < before.length; i++) {
+            if (before[i] != after[i]) {
+                changed.add(i);
+            }
+        }
+        Set<Integer> due = new TreeSet<>();
+        for (int changing : rows) {
+            due.add(changing);
+        }
+        checks.holds(what + " changes " + due + " and not " + changed, changed.equals(due));
+    }
+
+    private static void whatIsToldIsOfTheStateThatIs() {
+        CupFountain asked = new CupFountain();
+        CupFountain other = new CupFountain();
+        for (int i = 1; i <= 8; i++) {
+            ask(asked, i % 3 + 1);
+            for (CupFountain x : new CupFountain[] {asked, other}) {
+                x.pass(i % 3 + 1);
+                x.set(0, 2 * i);
+                x.setHour(i % 8, 3 * i);
+            }
+            due("told as if never asked before: all tips", asked.ifTicks(9, 3), other.ifTicks(9, 3));
+            due("told as if never asked before: starving", asked.starving(), other.starving());
+            for (int cup = 0; cup < 8; cup++) {
+                due("told as if never asked before: reason", asked.reason(cup), other.reason(cup));
+                due("told as if never asked before: tipsAt", asked.tipsAt(cup), other.tipsAt(cup));
+                due("told as if never asked before: bestSize", asked.bestSize(cup), other.bestSize(cup));
+            }
+        }
+    }
+
+    /** Looks at last just as far ahead as the ticks that pass next. */
+    private static void ask(CupFountain x, int ticks) {
+        x.starving();
+        x.bestSize(0);
+        x.tipsIn(7);
+        x.ifTicks(ticks, 3);
     }
 
     private static void whatIsToldChangesNothing() {
